@@ -75,6 +75,24 @@ public final class ActsTest {
         Due.due("undo() of less", mother.undo(), 0);
         Due.due("TILT", mother.piece(0, 3), 0);
         Due.due("undo() of nothing", mother.undo(), PearlMother.LATE);
+        eachPieceForItself();
+    }
+
+    private static void eachPieceForItself() {
+        PearlMother mother = Due.coast("P0H0H1H2H3C0000C0001C0002C0003C0000C0001");
+        for (int piece = 0; piece < 6; piece++) {
+            mother.tilt(piece, piece % 2 == 0);
+            mother.give(piece, (piece + 2) % 4);
+        }
+        for (int piece = 5; piece >= 0; piece--) {
+            Due.due("who holds " + piece, mother.piece(piece, 4), (piece + 2) % 4);
+            mother.undo();
+            Due.due("who held " + piece, mother.piece(piece, 4), piece % 4);
+            Due.due("TILT of " + piece, mother.piece(piece, 3), piece % 2 == 0 ? 1 : 7);
+            mother.undo();
+            Due.due("TILT of " + piece + " undone", mother.piece(piece, 3), 0);
+        }
+        Due.due("all is undone", mother.about(6), 0);
     }
 
     private static void forgetting() {
@@ -92,6 +110,23 @@ public final class ActsTest {
         Due.due("what is forgotten stays done", mother.piece(0, 4), 1);
         Due.due("the others are undone", mother.piece(0, 3), 0);
         Due.due("THE HOUR", mother.about(3), 0);
+        forgettingEndsWithTheLast();
+    }
+
+    /** What is undone behind a full row is what was done last, and only that. */
+    private static void forgettingEndsWithTheLast() {
+        PearlMother mother = Due.coast("P0H0C0000C0000");
+        for (int count = 0; count < 13; count++) {
+            mother.hour();
+        }
+        mother.tilt(0, true);
+        mother.tilt(1, false);
+        Due.due("undo()", mother.undo(), 13);
+        Due.due("TILT of 1", mother.piece(1, 3), 0);
+        Due.due("TILT of 0", mother.piece(0, 3), 1);
+        Due.due("undo()", mother.undo(), 12);
+        Due.due("TILT of 0", mother.piece(0, 3), 0);
+        Due.due("THE HOUR", mother.about(3), 13);
     }
 
     private static void keeping() {

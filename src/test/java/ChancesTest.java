@@ -28,6 +28,12 @@ public final class ChancesTest {
         Due.due("rests(2, 0, 2, 0)", mother.rests(2, 0, 2, 0), 1);
         Due.due("rests(2, 0, 2, 1)", mother.rests(2, 0, 2, 1), 10);
         Due.due("rests(2, 2, 0, 1)", mother.rests(2, 2, 0, 1), 1);
+        // to a CHILD it shows a step earlier and a step later than to a PLAIN one
+        rests(Due.coast("P0H0H1C0110"), 0, 1, 10);
+        rests(Due.coast("P0H1H0C0110"), 0, 1, 1);
+        rests(Due.coast("P0H0H1C0210"), 0, 0, PearlMother.NONE);
+        rests(Due.coast("P0H1H0C0210"), 0, 0, PearlMother.NONE);
+        rests(Due.coast("P0H3H3C0010"), 0, 1, 0);
         PearlMother chase = Due.coast("P0H0H1C0710C0310");
         chase.tilt(0, false);
         chase.tilt(0, false);
@@ -112,6 +118,11 @@ public final class ChancesTest {
             mother.seed(seedFor(lot));
             int want = lot == 1 || lot == 2 || lot >= 12 ? 2 : 1;
             Due.due("years(1) by lot " + lot, mother.years(1), want);
+        }
+        PearlMother last = Due.coast("P0H0C0000C0000C0000C2110");
+        for (int lot = 0; lot < 18; lot++) {
+            last.seed(seedFor(lot));
+            Due.due("years(1) of the fourth PIECE by lot " + lot, last.years(1), lot == 7 || lot >= 12 ? 1 : 0);
         }
         Due.due("nothing but THE SEED is changed", mother.about(2), 0);
         Due.due("THE HOUR", mother.about(3), 0);

@@ -130,6 +130,10 @@ public final class CoastTest {
         mother.hour();
         mother.wipe();
         Due.write(mother, "P6H3H2H1C4711");
+        Due.due("fault() of another text", mother.fault(), PearlMother.NONE);
+        Due.due("a text is no COAST yet: HOLDERS", mother.about(0), 2);
+        Due.due("a text is no COAST yet: PART", mother.piece(0, 0), 2);
+        Due.due("a text is no COAST yet: KIND", mother.holder(0, 0), 0);
         Due.due("coast()", mother.coast(), 31);
         Due.due("coast() anew: LIGHT", mother.about(2), 6);
         Due.due("coast() anew: THE HOUR", mother.about(3), 0);
@@ -166,6 +170,14 @@ public final class CoastTest {
         }
         Due.due("about(-1)", mother.about(-1), PearlMother.BAD);
         Due.due("about(9)", mother.about(9), PearlMother.BAD);
+        PearlMother first = Due.coast("P2H0H0C3310C4410");
+        Due.due("about(5), nothing is seen yet", first.about(5), 0);
+        first.hour();
+        Due.due("about(5) by the first HOLDER", first.about(5), 8);
+        Due.due("holder(0, 2)", first.holder(0, 2), 8);
+        first.hour();
+        Due.due("about(5) an hour later", first.about(5), 16);
+        Due.due("holder(0, 2) an hour later", first.holder(0, 2), 16);
         mother.hour();
         mother.hour();
         mother.turn(0, 0);

@@ -54,6 +54,8 @@ public final class SeenTest {
         mother.give(1, 1);
         Due.due("finds, the nearer one given", mother.finds(0, 0), 4);
         Due.due("finds of a CHILD", mother.finds(1, 0), 1);
+        PearlMother near = Due.coast("P0H0C0110C0310");
+        Due.due("finds by the first of two", near.finds(0, 0), 1);
     }
 
     private static void all() {
@@ -62,6 +64,7 @@ public final class SeenTest {
         Due.due("all of a GAMBLER", mother.all(1), 1);
         Due.due("all of the BLIND", mother.all(2), PearlMother.NONE);
         Due.due("all of who holds nothing, though BLIND", mother.all(3), 0);
+        Due.due("all of the first PIECE alone", Due.coast("P0H0C4410").all(0), 4);
         Due.due("all(4)", mother.all(4), PearlMother.UNKNOWN);
         Due.due("all(-1)", mother.all(-1), PearlMother.UNKNOWN);
     }
@@ -131,6 +134,8 @@ public final class SeenTest {
         giving("P0H3H0C0000C0000", 1, 12);
         giving("P0H0H0H0H0C0000C0000C0000C0000C0000C0000", 4, 111234);
         giving("P0H0H1C0000C0200C0300", 2, 121);
+        giving("P0H0H0C4001C0001", 2, 11);
+        giving("P0H0H0H0C4001C0001C4002C0001C4001C0001", 6, 112233);
         PearlMother mother = Due.coast("P0H0H1C0210C0110");
         Due.due("giving by LIGHT", mother.giving(true), 12);
         mother.hour();
@@ -180,6 +185,13 @@ public final class SeenTest {
         judge(mother, 4, 300300100402L, none);
         judge(mother, 4, 300300101402L, 3);
         judge(mother, 4, 300300300400L, none);
+        PearlMother narrow = Due.coast("P0H0C0110C1710");
+        judge(narrow, 2, 101400, none);
+        judge(narrow, 2, 100400, 1);
+        judge(narrow, 2, 110401, none);
+        judge(narrow, 2, 111401, 1);
+        judge(narrow, 4, 101101100400L, none);
+        judge(narrow, 4, 110100101300L, none);
         judge(mother, 4, 999999999999L, 0);
         judge(mother, 4, 1000000000000L, PearlMother.BAD);
         judge(mother, 4, Long.MAX_VALUE, PearlMother.BAD);

@@ -67,5 +67,17 @@ public final class UnknownPieceTest {
         }
         Due.due("may(0): DULL at 3 or at 7", mother.may(0), 10);
         Due.due("next(): it may be seen at 3", mother.next(), 3);
+        mother.unturn();
+        mother.turn(4, 0);
+        mother.turn(3, 5);
+        mother.turn(5, 5);
+        Due.due("may(0): DULL at 4 alone", mother.may(0), 1);
+        Due.due("may(1): DULL at 4 alone", mother.may(1), 41);
+        Due.due("next(): all ANGLES are alike", mother.next(), 0);
+        mother.unturn();
+        mother.turn(4, 0);
+        mother.turn(7, 5);
+        mother.turn(1, 5);
+        Due.due("next() in which SLEEVE is an answer", mother.next(), 2);
     }
 }
