@@ -4,6 +4,7 @@ import java.util.Random;
 final class Due {
     private static int wrong = 0;
     private static int asked = 0;
+    private static String under = "";
 
     private Due() {
     }
@@ -12,7 +13,24 @@ final class Due {
         asked++;
         if (got != want) {
             wrong++;
-            System.out.println(call + " answered " + got + ", due is " + want);
+            System.out.println(under + call + " answered " + got + ", due is " + want);
+        }
+    }
+
+    /** What stands ahead of each wrong answer that is told from here on. */
+    static void under(String words) {
+        under = words;
+    }
+
+    static int asked() {
+        return asked;
+    }
+
+    static void same(String what, String got, String want) {
+        asked++;
+        if (!got.equals(want)) {
+            wrong++;
+            System.out.println(under + what + " is " + got + ", due is " + want);
         }
     }
 

@@ -2,19 +2,22 @@ import java.util.Random;
 
 /** Runs of calls by chance (always the same ones), each answered by the class and by the model. */
 public final class ModelTest {
+    /** An object is used for 512 calls; the longest step, a text and all that can be told, takes 220. */
+    private static final int LAST_STEP = 512 - 220;
     private static final int[] WILD = {Integer.MIN_VALUE, -9, -2, -1, 31, 32, 63, 255, 256, Integer.MAX_VALUE};
 
     private final Random random;
     private final PearlMother mother = new PearlMother();
     private final Model model = new Model();
     private final StringBuilder told = new StringBuilder();
+    private int calls;
 
     private ModelTest(long run) {
         random = new Random(run);
     }
 
     public static void main(String[] args) {
-        int runs = args.length > 0 ? Integer.parseInt(args[0]) : 700;
+        int runs = args.length > 0 ? Integer.parseInt(args[0]) : 3000;
         for (long run = 0; run < runs; run++) {
             new ModelTest(run).run((int) (run % 4));
         }
@@ -35,6 +38,7 @@ public final class ModelTest {
     }
 
     private void same(String call, long got, long want) {
+        calls++;
         told.append(call).append(' ');
         Due.due(told.length() > 3000 ? "..." + told.substring(told.length() - 3000) : told.toString(), got, want);
     }
@@ -64,11 +68,10 @@ public final class ModelTest {
     }
 
     private void run(int size) {
-        int calls = 0;
         if (size > 0) {
             tell(Due.coastByChance(random, 1 + random.nextInt(4), 2 * size));
         }
-        for (; calls < 240; calls++) {
+        while (calls < LAST_STEP) {
             if (random.nextInt(80) == 0) {
                 String text = Due.coastByChance(random, 4, 6);
                 tell(random.nextBoolean() ? text : amiss(text));
